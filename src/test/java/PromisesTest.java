@@ -1,18 +1,5 @@
 /** Promise by promise: ordinary inputs, the edges that the document names, wrong inputs. */
-public final class PromisesTest {
-    private static final int NONE = -6, UNKNOWN = -1, OUTSIDE = -2, STATE = -3, FULL = -4, NO = -5;
-    private static final long LOST = -1000000000000000000L;
-    private static int wrong = 0;
-    private static int checks = 0;
-
-    private static void due(String what, long got, long want) {
-        checks++;
-        if (got != want) {
-            wrong++;
-            System.out.println(what + " answered " + got + ", due is " + want);
-        }
-    }
-
+public final class PromisesTest extends Checks {
     public static void main(String[] args) {
         newObject();
         neighbour();
@@ -47,44 +34,7 @@ public final class PromisesTest {
         image();
         restore();
         told();
-        System.out.println(checks + " answers looked at, " + wrong + " not as due");
-        if (wrong != 0) System.exit(1);
-    }
-
-    /** A (10 apples, bag 4), B (5, 20), C (0, 3). */
-    private static StolenApples three() {
-        StolenApples x = new StolenApples();
-        x.neighbour(0, 10, 4);
-        x.neighbour(1, 5, 20);
-        x.neighbour(2, 0, 3);
-        return x;
-    }
-
-    private static StolenApples six(int apples, int bag) {
-        StolenApples x = new StolenApples();
-        for (int n = 0; n < 6; n++) x.neighbour(n, apples, bag);
-        return x;
-    }
-
-    private static void write(StolenApples x, String text) {
-        x.wipe();
-        for (int i = 0; i < text.length(); i++) x.say(text.charAt(i));
-    }
-
-    private static int perform(StolenApples x, String text) {
-        write(x, text);
-        return x.done();
-    }
-
-    private static int faultOf(String text) {
-        StolenApples x = new StolenApples();
-        write(x, text);
-        return x.fault();
-    }
-
-    private static int whyOf(StolenApples x, String text) {
-        write(x, text);
-        return x.judge(1);
+        end();
     }
 
     private static void newObject() {
