@@ -201,6 +201,9 @@ public final class EdgesTest extends Checks {
         sentence("each who is there, the least first, robs one whom he can rob now (by what the others have left), or stays at home");
         StolenApples x = land(one(0, 3), one(0, 1), one(3, 1));
         due("A leaves nothing to B", x.boots(0), 3);
+        due("A or B, never both", x.boots(1), 3);
+        x.seen(2, 0);
+        due("A took all", x.boots(2), 1);
         StolenApples y = land(one(0, 1), one(0, 3), one(3, 1));
         due("A leaves two to B", y.boots(0), 4);
         y.seen(2, 0);
@@ -308,6 +311,9 @@ public final class EdgesTest extends Checks {
         due("alone: how many", land(one(9, 1)).look(1), 1);
         StolenApples y = six(9, 9);
         due("of several the least", y.look(0), 0);
+        StolenApples full = land(one(99, 1), one(99, 20));
+        due("trees of 99, the least", full.look(0), 0);
+        due("trees of 99: two of four rows", full.look(1), 2);
         StolenApples z = six(0, 1);
         z.neighbour(4, 9, 2);
         due("the only one that tells", z.look(0), 4);
@@ -332,6 +338,8 @@ public final class EdgesTest extends Checks {
         due("two trees, the small bag first", x.duel(1, 0, 3, 0), 981);
         due("three trees", x.duel(0, 1, 7, 0), 1039);
         due("three trees, the small bag first", x.duel(1, 0, 7, 0), 982);
+        due("no tree, behind a duel", x.duel(0, 1, 0, 0), 1000);
+        due("no tree, behind a duel: which", x.duel(0, 1, 0, 1), NONE);
         StolenApples y = six(99, 20);
         due("six trees, all even", y.duel(4, 5, 63, 0), 1000);
         due("five trees", y.duel(4, 5, 62, 0), 1020);
@@ -521,7 +529,7 @@ public final class EdgesTest extends Checks {
     }
 
     private static void yearActs() {
-        sentence("by x left over by 8: 0 the night ends, 1 a LAMP, 2 a DOG, 3 one is caught, else one robs, each if that can be");
+        sentence("by x left over by 8: 0 the night ends, 1 a LAMP, 2 a DOG, 3 one is caught, else one robs");
         for (int seed = 0; seed <= 9999; seed += 101) {
             int acts = 1 + seed % 99;
             int[] want = yearByNights(orchard(seed), seed, acts);

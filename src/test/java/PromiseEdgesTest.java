@@ -63,7 +63,7 @@ public final class PromiseEdgesTest extends Checks {
     }
 
     private static void neighbour() {
-        sentence("2: A NEIGHBOUR is there: how many are");
+        sentence("2: A NEIGHBOUR is there (or just APPLES, his BAG are anew): how many are");
         StolenApples x = new StolenApples();
         int[] order = {5, 0, 3, 1, 4, 2};
         for (int i = 0; i < 6; i++) due("one more", x.neighbour(order[i], i, i + 1), i + 1);
@@ -105,7 +105,7 @@ public final class PromiseEdgesTest extends Checks {
     }
 
     private static void move() {
-        sentence("3: A NEIGHBOUR moves: how many are there");
+        sentence("3: A NEIGHBOUR moves (nothing is left of him; nobody has ROBBED him): how many are there");
         StolenApples x = six(9, 1);
         int[] order = {2, 5, 0, 4, 1, 3};
         for (int i = 0; i < 6; i++) {
@@ -136,6 +136,12 @@ public final class PromiseEdgesTest extends Checks {
         due("his lamp does not burn", x.told(4), 0);
         due("B can rob him again", x.may(1) & 1, 1);
         due("he is in shame", x.trees(1) & 1, 1);
+        StolenApples z = after(six(20, 5), "FEAF");
+        z.move(5);
+        due("all are in shame again, for F has moved", z.trees(1), 31);
+        due("nobody has robbed F", z.state(0, 3), 0);
+        z.neighbour(5, 20, 5);
+        due("F has robbed nobody", z.state(5, 3), 0);
         StolenApples y = after(six(20, 5), "AB");
         y.move(0);
         due("B is in shame, for his robber has moved", y.trees(1), 62);

@@ -47,7 +47,7 @@ public final class RefusalsTest extends Checks {
     private static final Map<String, Method> MODEL = methodsOf(SlowOrchard.class);
 
     public static void main(String[] args) {
-        sentence("Calls that are refused answer, the first of these that fits; They change nothing");
+        sentence("They change nothing.");
         for (String land : LANDS) {
             List<Long> untouched = laterAnswers(made(land));
             for (String name : FAST.keySet()) {

@@ -34,7 +34,7 @@ public final class TermsTest extends Checks {
     }
 
     private static void refusalNumbers() {
-        sentence("UNKNOWN -1, OUTSIDE -2, NO -5, STATE -3, FULL -4");
+        sentence("UNKNOWN -1 (there is no such NEIGHBOUR), OUTSIDE -2 (another number is not as told), NO -5 (as told), STATE -3 (as told), FULL -4");
         due("NONE", StolenApples.NONE, -6);
         due("UNKNOWN", StolenApples.UNKNOWN, -1);
         due("OUTSIDE", StolenApples.OUTSIDE, -2);
@@ -207,7 +207,7 @@ public final class TermsTest extends Checks {
     }
 
     private static void frostLimits() {
-        sentence("FROST: in how many nights it is (0 to 30)");
+        sentence("FROST: in how many nights it is (0 to 30; 10 at first)");
         range("frost", 0, 30, OUTSIDE, StolenApples::new, (x, v) -> x.frost(v));
         StolenApples x = new StolenApples();
         x.frost(30);
@@ -468,7 +468,7 @@ public final class TermsTest extends Checks {
     }
 
     private static void reasonsOfOneself() {
-        sentence("An ACT can not be for the least of these reasons: 2");
+        sentence("An ACT can not be for the least of these reasons");
         StolenApples x = land(one(9, 1), one(9, 1), one(0, 1));
         due("2 with 4", whyOf(x, "ABAA"), 2);
         due("2 with 5", whyOf(x, "A~AA"), 2);
@@ -479,7 +479,7 @@ public final class TermsTest extends Checks {
     }
 
     private static void reasonsLater() {
-        sentence("An ACT can not be for the least of these reasons: 3 to 7");
+        sentence("An ACT can not be for the least of these reasons");
         StolenApples x = land(one(9, 1), one(1, 1), one(0, 1));
         due("3 with 4 and 6", whyOf(x, "ABAB"), 3);
         due("3 with 5", whyOf(land(one(9, 1), one(9, 1)), "AB.B~AB"), 3);
