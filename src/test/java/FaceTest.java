@@ -28,13 +28,15 @@ public final class FaceTest {
     private static final String[] RULED_OUT = {
         "\\bcatch\\s*\\(", "\\btry\\s*\\{", "\\bfinally\\b", "->", "::", "\\bsynchronized\\b", "\\bassert\\b",
         "\\bpackage\\b", "Exact\\s*\\(", "\\bRandom\\b", "\\bThread\\b", "currentTimeMillis", "nanoTime",
-        "hashCode", "\\btoString\\b", "import (?!java\\.util\\.Arrays;)", "while\\s*\\(true"
+        "hashCode", "\\btoString\\b", "\\bthrow\\b", "import (?!java\\.util\\.Arrays;)", "while\\s*\\(true"
     };
+    private static final int MOST_CLASSES = 12, MOST_FIELDS = 20, MOST_LINES = 60;
     private static final List<String> wrong = new ArrayList<>();
 
     public static void main(String[] args) throws IOException {
         members();
         noNameTwice(StolenApples.class);
+        sizes();
         source(Path.of(args.length > 0 ? args[0] : ".").resolve("src/main/java/StolenApples.java"));
         for (String line : wrong) System.out.println(line);
         System.out.println(wrong.isEmpty() ? "the face is the document's" : wrong.size() + " faults of the face");
@@ -80,8 +82,31 @@ public final class FaceTest {
         }
     }
 
+    private static void sizes() {
+        List<Class<?>> classes = new ArrayList<>(List.of(StolenApples.class.getDeclaredClasses()));
+        classes.add(StolenApples.class);
+        if (classes.size() > MOST_CLASSES) wrong.add("classes " + classes.size());
+        for (Class<?> c : classes) {
+            long fields = List.of(c.getDeclaredFields()).stream().filter(f -> !Modifier.isStatic(f.getModifiers())).count();
+            if (fields > MOST_FIELDS) wrong.add("fields of " + c + ": " + fields);
+        }
+    }
+
+    /** A method begins with a line that ends with ") {" and ends with the brace that stands as far in. */
+    private static void lengths(List<String> lines) {
+        for (int from = 0; from < lines.size(); from++) {
+            Matcher head = Pattern.compile("^( {4}| {8})(?! )[^=]*\\) \\{$").matcher(lines.get(from));
+            if (!head.matches()) continue;
+            int to = from;
+            while (to < lines.size() && !lines.get(to).equals(head.group(1) + "}")) to++;
+            if (to - from + 1 > MOST_LINES) wrong.add("long: " + lines.get(from).trim());
+        }
+    }
+
     private static void source(Path file) throws IOException {
         String text = Files.readString(file).replaceAll("(?s)/\\*.*?\\*/", "").replaceAll("//[^\n]*", "");
+        lengths(Files.readAllLines(file));
+        if (!text.chars().allMatch(c -> c == '\n' || c >= 32 && c < 127)) wrong.add("signs beyond 127 in the source");
         for (String pattern : RULED_OUT) {
             Matcher m = Pattern.compile(pattern).matcher(text);
             if (m.find()) wrong.add("ruled out in the source: " + m.group());

@@ -1,6 +1,6 @@
 import java.util.Random;
 
-/** Random runs of calls, each answer held against the slow model's; the seeds are fixed. */
+/** Random runs of 512 calls on one object, each answer held against the slow model's; the seeds are fixed. */
 public final class ModelTest {
     private static final int RUNS = 400;
     private static final int CALLS = 512;
@@ -11,6 +11,7 @@ public final class ModelTest {
     private final SlowOrchard slow = new SlowOrchard();
     private final StringBuilder story = new StringBuilder();
     private final int mostApples;
+    private int calls;
     private int brute;
 
     private ModelTest(int seed) {
@@ -28,23 +29,22 @@ public final class ModelTest {
     }
 
     private boolean agrees() {
-        int steps = 0;
-        while (steps < CALLS) {
+        while (calls < CALLS) {
             if (random.nextInt(6) == 0) {
                 String text = nights();
-                for (int i = 0; i < text.length() && steps < CALLS; i++, steps++) {
+                for (int i = 0; i < text.length() && calls < CALLS; i++) {
                     int sign = text.charAt(i);
                     if (!same("say(" + sign + ")", fast.say(sign), slow.say(sign))) return false;
                 }
-            } else {
-                steps++;
-                if (!call(random.nextInt(40))) return false;
+            } else if (!call(random.nextInt(40))) {
+                return false;
             }
         }
         return true;
     }
 
     private boolean same(String call, long got, long want) {
+        calls++;
         story.append(call).append(' ');
         if (got == want) return true;
         System.out.println(story + "answered " + got + ", due is " + want);
@@ -124,7 +124,8 @@ public final class ModelTest {
             }
             case 10: case 11: {
                 if (!same("done()", fast.done(), slow.done())) return false;
-                return random.nextInt(3) != 0 || same("wipe()", fast.wipe(), slow.wipe());
+                boolean over = calls == CALLS || random.nextInt(3) != 0;
+                return over || same("wipe()", fast.wipe(), slow.wipe());
             }
             case 12: {
                 int what = number(0, 3);
